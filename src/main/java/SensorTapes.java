@@ -462,14 +462,16 @@ public final class SensorTapes {
             return number != 0;
         }
 
-        void tell(int newNumber, int newPlace, int newSamples) {
-            number = newNumber;
-            place = newPlace;
-            samples = newSamples;
+        void forget() {
+            number = 0;
+            place = NONE;
+            samples = NONE;
         }
 
         void takeOver(Fault other) {
-            tell(other.number, other.place, other.samples);
+            number = other.number;
+            place = other.place;
+            samples = other.samples;
         }
     }
 
@@ -638,7 +640,7 @@ public final class SensorTapes {
         void takeAll(Rules rules, Bits tape, int n) {
             row.length = 0;
             next = 0;
-            fault.tell(0, NONE, NONE);
+            fault.forget();
             int blocks = quotientUp(n, rules.size);
             for (int b = 0; b < blocks && !fault.isTold(); b++) {
                 takeBlock(rules, tape, rules.endOfBlock(b, n));
@@ -713,7 +715,9 @@ public final class SensorTapes {
         }
 
         int fail(int number, int place) {
-            fault.tell(number, place, row.length);
+            fault.number = number;
+            fault.place = place;
+            fault.samples = row.length;
             return NONE;
         }
     }

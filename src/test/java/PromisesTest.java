@@ -20,6 +20,7 @@ public final class PromisesTest {
         cost();
         block();
         choiceOfEqualCosts();
+        choiceFollowsTheRow();
         packed();
         lost();
         tape();
@@ -152,6 +153,10 @@ public final class PromisesTest {
         due("rule(1, 2) with a 16", x.rule(1, 2), 8);
         due("rule(2, 2) with a 16", x.rule(2, 2), 8);
         dueRow("rules change no sample", x, 3, 15, 16, 0);
+        SensorTapes even = new SensorTapes();
+        addAll(even, 3, 15);
+        due("rule(0, 4) with a 15", even.rule(0, 4), 8);
+        due("rule(0, 3) with a 15", even.rule(0, 3), STATE);
     }
 
     private static void add() {
@@ -344,13 +349,33 @@ public final class PromisesTest {
         due("0 15: code", x.block(0, 1), 8);
         x.clear();
         x.rule(1, 3);
-        // Way 0 wants 8: folds 2, 1 (k = 0: 3 + 2); way 1: folds 0, 3 (1 + 4): the same.
+        // Way 0 tells 8: folds 2, 1 (k = 0: 3 + 2); way 1: folds 0, 3 (1 + 4): the same.
         addAll(x, 9, 9, 7);
         due("9 9 7, way 0, code 1", x.cost(0, 0, 1), 15);
         due("9 9 7, way 1, code 1", x.cost(0, 1, 1), 15);
         due("9 9 7, way 0, code 2", x.cost(0, 0, 2), 15);
         due("9 9 7: way", x.block(0, 0), 0);
         due("9 9 7: code", x.block(0, 1), 1);
+    }
+
+    /** What was asked of an earlier row says nothing of the one that is there now. */
+    private static void choiceFollowsTheRow() {
+        SensorTapes x = ruled(4, 2, 2);
+        addAll(x, 9, 9, 9, 9);
+        x.tape();
+        due("nines: block(0, 0)", x.block(0, 0), 1);
+        x.image(0);
+        x.clear();
+        addAll(x, 8, 8, 0, 15, 1);
+        duePacked("other samples", x, "00 0000 1000  00 1000 1111 1110  00 0000 0001");
+        due("read(4) of nines", x.read(4), 4);
+        duePacked("read nines", x, "01 0000 1001  01 0000");
+        x.clear();
+        addAll(x, 8, 8, 8, 8);
+        duePacked("eights", x, "00 0000 1000  00 0000");
+        due("restore(0) of nines", x.restore(0), 1);
+        duePacked("restored nines", x, "01 0000 1001  01 0000");
+        due("restored nines: count(8)", x.count(8), 2);
     }
 
     private static void packed() {

@@ -437,7 +437,14 @@ public final class PromisesTest {
         SensorTapes x = new SensorTapes();
         due("push(2)", x.push(2), OUTSIDE);
         due("push(-1)", x.push(-1), OUTSIDE);
-        for (int i = 1; i <= 1000; i++) {
+        // An object answers 512 calls, so most of the 1000 bits come from 64 BARE SAMPLES of 14 bits each.
+        x.rule(1, 1);
+        x.rule(2, 1);
+        for (int i = 0; i < 64; i++) {
+            x.add(0);
+        }
+        due("tape() of 64 bare ones", x.tape(), 896);
+        for (int i = 897; i <= 1000; i++) {
             due("push " + i, x.push(i % 3 == 0 ? 1 : 0), i);
         }
         due("push(0) on 1000", x.push(0), FULL);
@@ -559,7 +566,6 @@ public final class PromisesTest {
     }
 
     private static void faultOfMissingBits() {
-        SensorTapes x = ruled(4, 3, 2);
         String all = "01 0010 0101  1 0  001 1  01 1000 0000 0000 0001  11 0000 1111";
         String bits = all.replace(" ", "");
         // How many samples are read of each beginning; a bare one as soon as it is whole.
@@ -569,9 +575,9 @@ public final class PromisesTest {
             for (int end : ends) {
                 samples += end <= length ? 1 : 0;
             }
-            dueFaultOf(bits.substring(0, length), x, 9, 1, length, samples);
+            dueFaultOf(bits.substring(0, length), ruled(4, 3, 2), 9, 1, length, samples);
         }
-        x.cut(0);
+        SensorTapes x = ruled(4, 3, 2);
         pushAll(x, all);
         due("read(9) of all", x.read(9), 9);
         due("read(9) of all: sample(8)", x.sample(8), 15);

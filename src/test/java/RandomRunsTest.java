@@ -3,7 +3,9 @@ import java.util.Random;
 /** Runs of 512 calls, drawn from fixed seeds, on the class and on the Reference: all answers agree. */
 public final class RandomRunsTest {
     private static final int RUNS = 400;
+    // An object answers 512 calls; a step makes no more than twelve.
     private static final int CALLS = 512;
+    private static final int CALLS_OF_A_STEP = 12;
     private static final int[] ODD = {Integer.MIN_VALUE, -7, -2, -1, 9, 10, 64, 65, 255, 256, 1000, Integer.MAX_VALUE};
 
     private final Checks checks;
@@ -11,6 +13,7 @@ public final class RandomRunsTest {
     private final SensorTapes x = new SensorTapes();
     private final Reference y = new Reference();
     private final int seed;
+    private int made;
     private final StringBuilder story = new StringBuilder();
 
     private RandomRunsTest(Checks checks, int seed) {
@@ -28,8 +31,8 @@ public final class RandomRunsTest {
     }
 
     private void run() {
-        for (int made = 0; made < CALLS && !checks.anyWrong();) {
-            made += step();
+        while (made <= CALLS - CALLS_OF_A_STEP && !checks.anyWrong()) {
+            step();
         }
         if (checks.anyWrong()) {
             System.out.println("seed " + seed + ":" + story);
@@ -37,6 +40,7 @@ public final class RandomRunsTest {
     }
 
     private void due(String call, int got, int want) {
+        made++;
         story.append(' ').append(call);
         checks.due("seed " + seed + " " + call, got, want);
     }
@@ -49,29 +53,26 @@ public final class RandomRunsTest {
         return most < least ? least : least + random.nextInt(most - least + 1);
     }
 
-    private int step() {
+    private void step() {
         int kind = random.nextInt(100);
         if (kind < 14) {
-            return addSome();
+            addSome();
+        } else if (kind < 22) {
+            change();
+        } else if (kind < 34) {
+            turnTape();
+        } else if (kind < 46) {
+            readBack();
+        } else if (kind < 52) {
+            images();
+        } else {
+            ask();
         }
-        if (kind < 22) {
-            return change();
-        }
-        if (kind < 34) {
-            return turnTape();
-        }
-        if (kind < 46) {
-            return readBack();
-        }
-        if (kind < 52) {
-            return images();
-        }
-        return ask();
     }
 
-    private int addSome() {
-        int top = (1 << x.count(5)) - 1;
-        int many = 1 + random.nextInt(12);
+    private void addSome() {
+        int top = (1 << y.count(5)) - 1;
+        int many = 1 + random.nextInt(CALLS_OF_A_STEP);
         int slope = random.nextInt(7) - 3;
         int noise = random.nextInt(3) == 0 ? top : random.nextInt(3);
         int v = random.nextInt(top + 1);
@@ -84,22 +85,20 @@ public final class RandomRunsTest {
                 v = random.nextBoolean() ? 0 : top;
             }
         }
-        return many;
     }
 
-    private int change() {
+    private void change() {
         if (random.nextInt(6) == 0) {
             due("clear()", x.clear(), y.clear());
-            return 1;
+            return;
         }
         int what = number(0, 2);
         int n = number(1, 8);
         due("rule(" + what + ", " + n + ")", x.rule(what, n), y.rule(what, n));
-        return 1;
     }
 
-    private int turnTape() {
-        int length = x.bit(-1);
+    private void turnTape() {
+        int length = y.bit(-1);
         int kind = random.nextInt(7);
         if (kind == 0) {
             due("tape()", x.tape(), y.tape());
@@ -110,12 +109,11 @@ public final class RandomRunsTest {
             int n = random.nextInt(3) == 0 ? number(0, length) : number(Math.max(0, length - 9), length);
             due("cut(" + n + ")", x.cut(n), y.cut(n));
         } else {
-            return pushSome();
+            pushSome();
         }
-        return 1;
     }
 
-    private int pushSome() {
+    private void pushSome() {
         int many = 1 + random.nextInt(10);
         int ones = 1 + random.nextInt(6);
         for (int i = 0; i < many; i++) {
@@ -123,15 +121,14 @@ public final class RandomRunsTest {
             bit = random.nextInt(40) == 0 ? number(0, 1) : bit;
             due("push(" + bit + ")", x.push(bit), y.push(bit));
         }
-        return many;
     }
 
-    private int readBack() {
-        int length = x.count(0);
+    private void readBack() {
+        int length = y.count(0);
         if (random.nextInt(3) == 0) {
             due("tape()", x.tape(), y.tape());
             if (random.nextInt(3) == 0) {
-                int i = number(0, x.bit(-1) - 1);
+                int i = number(0, y.bit(-1) - 1);
                 due("flip(" + i + ")", x.flip(i), y.flip(i));
             }
         }
@@ -142,22 +139,20 @@ public final class RandomRunsTest {
         }
         int i = number(0, 64);
         due("sample(" + i + ")", x.sample(i), y.sample(i));
-        return 7;
     }
 
-    private int images() {
+    private void images() {
         int k = number(0, 1);
         if (random.nextBoolean()) {
             due("image(" + k + ")", x.image(k), y.image(k));
         } else {
             due("restore(" + k + ")", x.restore(k), y.restore(k));
         }
-        return 1;
     }
 
-    private int ask() {
-        int i = number(0, x.count(0));
-        int b = number(0, x.count(1));
+    private void ask() {
+        int i = number(0, y.count(0));
+        int b = number(0, y.count(1));
         int way = number(0, 3);
         switch (random.nextInt(9)) {
             case 0: {
@@ -180,7 +175,7 @@ public final class RandomRunsTest {
                 break;
             }
             case 4: {
-                int at = number(-1, x.count(3));
+                int at = number(-1, y.count(3));
                 due("packed(" + at + ")", x.packed(at), y.packed(at));
                 break;
             }
@@ -189,7 +184,7 @@ public final class RandomRunsTest {
                 break;
             }
             case 6: {
-                int at = number(-1, x.bit(-1));
+                int at = number(-1, y.bit(-1));
                 due("bit(" + at + ")", x.bit(at), y.bit(at));
                 break;
             }
@@ -204,6 +199,5 @@ public final class RandomRunsTest {
                 break;
             }
         }
-        return 1;
     }
 }

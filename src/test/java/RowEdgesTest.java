@@ -132,7 +132,8 @@ public final class RowEdgesTest {
         edge("3: one more, 63 were read", Edges.rules(8, 8, 8), Edges.times(56, "push(0)"),
             "read(63) = 63 add(5) = 64 sample(63) = 5 add(0) = FULL");
         edge("3: FULL, the 64 were restored", full, "image(0) = 1 clear() = 64 restore(0) = 1 add(0) = FULL");
-        edge("3: FULL, with every SIZE and EVERY", full, "rule(1, 1) rule(2, 1) add(0) = FULL rule(1, 8) rule(2, 8) add(0) = FULL");
+        edge("3: FULL, with every SIZE and EVERY", full,
+            "rule(1, 1) rule(2, 1) add(0) = FULL rule(1, 8) rule(2, 8) add(0) = FULL");
     }
 
     private static void clear() {
@@ -181,7 +182,8 @@ public final class RowEdgesTest {
         edge("6: OUTSIDE ahead of NONE, no such SAMPLE", two, "ahead(2, 4, 0) = OUTSIDE ahead(2, 0, 2) = OUTSIDE");
         edge("6: OUTSIDE ahead of NONE, i below 0", two, "ahead(-1, -1, 0) = OUTSIDE ahead(-1, 0, -1) = OUTSIDE");
         edge("6: OUTSIDE ahead of NONE, a BARE one", two, "ahead(0, 4, 1) = OUTSIDE ahead(0, 3, 2) = OUTSIDE");
-        edge("6: of the full ROW", Edges.times(63, "add(1)"), "add(4) = 64 ahead(63, 1, 0) = 1 ahead(63, 1, 1) = 4 ahead(64, 1, 0) = NONE");
+        edge("6: of the full ROW", Edges.times(63, "add(1)"),
+            "add(4) = 64 ahead(63, 1, 0) = 1 ahead(63, 1, 1) = 4 ahead(64, 1, 0) = NONE");
     }
 
     private static void aheadOfBareOnes() {
@@ -189,10 +191,14 @@ public final class RowEdgesTest {
         edge("6: SAMPLE 0 is BARE", Edges.adds(5), "ahead(0, 0, 0) = NONE ahead(0, 0, 1) = NONE");
         edge("6: a SEGMENT of 32", full, "ahead(31, 1, 0) = 3 ahead(32, 1, 0) = NONE ahead(33, 1, 0) = 3");
         edge("6: a SEGMENT of 1", full, "rule(1, 1) rule(2, 1) ahead(1, 1, 0) = NONE ahead(63, 1, 0) = NONE");
-        edge("6: a SEGMENT of 2, SIZE 1", full, "rule(1, 1) rule(2, 2) ahead(1, 1, 0) = 3 ahead(2, 1, 0) = NONE ahead(63, 1, 0) = 3");
-        edge("6: a SEGMENT of 2, EVERY 1", full, "rule(1, 2) rule(2, 1) ahead(1, 1, 0) = 3 ahead(2, 1, 0) = NONE ahead(63, 1, 0) = 3");
-        edge("6: a SEGMENT of 8, SIZE 1", full, "rule(1, 1) rule(2, 8) ahead(7, 1, 0) = 3 ahead(8, 1, 0) = NONE ahead(56, 1, 0) = NONE");
-        edge("6: a SEGMENT of 8, EVERY 1", full, "rule(1, 8) rule(2, 1) ahead(7, 1, 0) = 3 ahead(8, 1, 0) = NONE ahead(56, 1, 0) = NONE");
+        edge("6: a SEGMENT of 2, SIZE 1", full,
+            "rule(1, 1) rule(2, 2) ahead(1, 1, 0) = 3 ahead(2, 1, 0) = NONE ahead(63, 1, 0) = 3");
+        edge("6: a SEGMENT of 2, EVERY 1", full,
+            "rule(1, 2) rule(2, 1) ahead(1, 1, 0) = 3 ahead(2, 1, 0) = NONE ahead(63, 1, 0) = 3");
+        edge("6: a SEGMENT of 8, SIZE 1", full,
+            "rule(1, 1) rule(2, 8) ahead(7, 1, 0) = 3 ahead(8, 1, 0) = NONE ahead(56, 1, 0) = NONE");
+        edge("6: a SEGMENT of 8, EVERY 1", full,
+            "rule(1, 8) rule(2, 1) ahead(7, 1, 0) = 3 ahead(8, 1, 0) = NONE ahead(56, 1, 0) = NONE");
         edge("6: a SEGMENT of 63", full, "rule(1, 7) rule(2, 8) ahead(55, 1, 0) = 3 ahead(56, 1, 0) = NONE ahead(57, 1, 0) = 3");
         edge("6: a SEGMENT of 64", full, "rule(1, 8) rule(2, 8) ahead(1, 1, 0) = 3 ahead(32, 1, 0) = 3 ahead(63, 1, 0) = 3");
         edge("6: the first of a BLOCK only is not BARE", full, "rule(1, 2) rule(2, 2) ahead(2, 1, 0) = 3 ahead(4, 1, 0) = NONE");
@@ -209,7 +215,8 @@ public final class RowEdgesTest {
         edge("6: the last SAMPLE of a SEGMENT", rising, "ahead(5, 2, 0) = 60 ahead(5, 3, 0) = 45");
         edge("6: b is of another SEGMENT", rising, "ahead(7, 2, 0) = 70 ahead(7, 3, 0) = 70");
         edge("6: b is the BARE one", rising, "ahead(8, 2, 0) = 90 ahead(8, 3, 0) = 75");
-        edge("6: a new EVERY takes b away", rising, "rule(2, 1) = 2 ahead(3, 2, 0) = NONE ahead(4, 2, 0) = 40 ahead(5, 2, 0) = 60");
+        edge("6: a new EVERY takes b away", rising,
+            "rule(2, 1) = 2 ahead(3, 2, 0) = NONE ahead(4, 2, 0) = 40 ahead(5, 2, 0) = 60");
     }
 
     private static void toldByWays() {

@@ -8,7 +8,8 @@ import java.util.regex.Pattern;
 /**
  * Boundary cases, each a short story of calls on a new object: "add(255) = 1 add(256) = OUTSIDE".
  * A call with "= answer" must answer so, and the Reference too. Wherever a refusal or NONE is due,
- * all that can be asked, of both IMAGES too, must be the same with the call and without it.
+ * the rules, THE ROW, THE TAPE, the FAULT and what is PACKED, now and in both IMAGES, must be the
+ * same with the call and without it.
  */
 final class Edges {
     /** With WIDTH 4: what is TOLD AHEAD, the SAMPLE, its FOLD; at the ends of each of the three ranges. */

@@ -124,12 +124,22 @@ final class Edges {
         checks.due(title + ": asks something", asked > 0 ? 1 : 0, 1);
     }
 
+    /** Whether a Reference, it may be a broken one, answers a story as due. */
+    static boolean holdsFor(Reference y, String... parts) {
+        boolean holds = true;
+        for (Call call : callsOf(String.join(" ", parts))) {
+            int got = call.on(y);
+            holds &= call.due() == null || got == call.due();
+        }
+        return holds;
+    }
+
     void due(String title, int got, int want) {
         checks.due(title, got, want);
     }
 
     void end() {
-        System.out.println(titles.size() + " boundary cases");
+        System.out.println(titles.size() + " cases");
         checks.end();
     }
 

@@ -4,37 +4,38 @@ import java.util.List;
 /**
  * The document once more, as plainly and slowly as can be: bits are texts, a FOLD is undone by
  * trying every SAMPLE, a COST is the length of what is written. It shares nothing with the class.
+ * It is open, so that a test can break one sentence of it and see whether that is found.
  */
-final class Reference {
-    private static final int OUTSIDE = -2;
-    private static final int STATE = -3;
-    private static final int FULL = -4;
-    private static final int NONE = -6;
-    private static final int FAULT = -7;
+class Reference {
+    static final int OUTSIDE = -2;
+    static final int STATE = -3;
+    static final int FULL = -4;
+    static final int NONE = -6;
+    static final int FAULT = -7;
 
-    private int[] rules = {8, 8, 4};
-    private List<Integer> row = new ArrayList<>();
-    private String tape = "";
-    private int[] fault = {0, NONE, NONE};
-    private final Reference[] images = new Reference[2];
+    int[] rules = {8, 8, 4};
+    List<Integer> row = new ArrayList<>();
+    String tape = "";
+    int[] fault = {0, NONE, NONE};
+    final Reference[] images = new Reference[2];
 
-    private int top() {
+    int top() {
         return (int) Math.pow(2, rules[0]) - 1;
     }
 
-    private int segmentOfSample(int i) {
+    int segmentOfSample(int i) {
         return i / rules[1] / rules[2];
     }
 
-    private boolean bare(int i) {
+    boolean bare(int i) {
         return i == 0 || segmentOfSample(i) != segmentOfSample(i - 1);
     }
 
-    private int blocks() {
+    int blocks() {
         return (int) Math.ceil(row.size() / (double) rules[1]);
     }
 
-    private List<Integer> samplesOf(int b) {
+    List<Integer> samplesOf(int b) {
         List<Integer> numbers = new ArrayList<>();
         for (int i = 0; i < row.size(); i++) {
             if (i / rules[1] == b) {
@@ -44,7 +45,7 @@ final class Reference {
         return numbers;
     }
 
-    private int told(List<Integer> samples, int i, int way) {
+    int told(List<Integer> samples, int i, int way) {
         int a = samples.get(i - 1);
         int b = i >= 2 && segmentOfSample(i - 2) == segmentOfSample(i) ? samples.get(i - 2) : a;
         if (way == 0) {
@@ -63,7 +64,7 @@ final class Reference {
         return straight > top() ? top() : straight;
     }
 
-    private int fold(int v, int e) {
+    int fold(int v, int e) {
         int t = e < top() - e ? e : top() - e;
         if (e <= v && v <= e + t) {
             return 2 * (v - e);
@@ -74,7 +75,7 @@ final class Reference {
         return t + (v > e ? v - e : e - v);
     }
 
-    private int unfold(int f, int e) {
+    int unfold(int f, int e) {
         for (int v = 0; v <= top(); v++) {
             if (fold(v, e) == f) {
                 return v;
@@ -83,7 +84,7 @@ final class Reference {
         throw new IllegalStateException("no sample folds to " + f + " by " + e);
     }
 
-    private static String number(int n, int width) {
+    String number(int n, int width) {
         String text = "";
         for (int i = 0; i < width; i++) {
             text = n % 2 + text;
@@ -93,7 +94,7 @@ final class Reference {
     }
 
     /** What a BLOCK is written as, or null. */
-    private String written(int b, int way, int code) {
+    String written(int b, int way, int code) {
         StringBuilder text = new StringBuilder(number(way, 2) + number(code, 4));
         for (int i : samplesOf(b)) {
             if (bare(i)) {
@@ -116,7 +117,7 @@ final class Reference {
     }
 
     /** WAY and CODE. */
-    private int[] choice(int b) {
+    int[] choice(int b) {
         int[] best = null;
         int least = Integer.MAX_VALUE;
         for (int way = 3; way >= 0; way--) {
@@ -131,7 +132,7 @@ final class Reference {
         return best;
     }
 
-    private String packedUpTo(int blocks) {
+    String packedUpTo(int blocks) {
         StringBuilder text = new StringBuilder();
         for (int b = 0; b < blocks; b++) {
             int[] best = choice(b);
@@ -288,7 +289,11 @@ final class Reference {
         return n;
     }
 
-    private int[] firstFault(int n, List<Integer> got) {
+    boolean isFaulty(int code) {
+        return code > 8 || code >= 1 && code <= 7 && code - 1 >= rules[0];
+    }
+
+    int[] firstFault(int n, List<Integer> got) {
         int all = tape.length();
         int at = 0;
         int way = 0;
@@ -300,7 +305,7 @@ final class Reference {
                 }
                 way = Integer.parseInt(tape.substring(at, at + 2), 2);
                 code = Integer.parseInt(tape.substring(at + 2, at + 6), 2);
-                if (code > 8 || code >= 1 && code <= 7 && code - 1 >= rules[0]) {
+                if (isFaulty(code)) {
                     return new int[] {2, at, i};
                 }
                 at += 6;
